@@ -1,6 +1,9 @@
 import java.util.Objects;
 
-/** Every promise of the document by examples: ordinary inputs, the edges that it names, wrong inputs. */
+/**
+ * Promises 1 to 24 by examples: ordinary inputs, the edges that the document names, wrong inputs. No object is used
+ * for more than 512 calls; digest (25), which tells all that the other calls tell, is in PromisesBoundaryTest.
+ */
 public final class PromisesTest {
     private static final String ARGUMENT = "IllegalArgumentException";
     private static final String STATE = "IllegalStateException";
@@ -71,7 +74,6 @@ public final class PromisesTest {
         looked();
         bestIndex();
         fullness();
-        digest();
         throwingChangesNothing();
         everyRow();
         System.out.println(wrong == 0 ? "all answers are as due" : wrong + " answers are not as due");
@@ -442,6 +444,7 @@ public final class PromisesTest {
         }
         String[] begun = {"", "a", "a=", "a<", "a>-", "a=1&", "a=1&b", "a=-12&h<",
             "a=1&b=1&c=1&d=1&e=1&f=1&g=1&h=1&a=1&b=1&", "a=9999&a=9999&a=9999&a=9999&a=9999&a=99&"};
+        fresh("13 firstError, begun");
         for (String text : begun) {
             text(text);
             due(x.clearBuffer(), "firstError of " + text, () -> {
@@ -455,6 +458,7 @@ public final class PromisesTest {
             "2a=&", "2a=b", "2a=+1", "3a=--1", "3a=-&", "3a=-a", "3a=01", "4a=-01", "3a=00", "3a=0-", "3a=1-", "3a=1=",
             "3a=1a", "6a=12345", "7a=-10000", "3a=1|b=1", "4a=1&&b=1", "4a=1&=", "4a=1&1", "7a=1&b=1/", "7a=1&b=1:",
             "2a=/", "2a=:"};
+        fresh("13 firstError, broken");
         for (String indexed : broken) {
             text(indexed.substring(1));
             due(indexed.charAt(0) - '0', "firstError of " + indexed.substring(1), () -> x.firstError());
@@ -880,85 +884,6 @@ public final class PromisesTest {
         due(1.0, "full", () -> x.fullness());
     }
 
-    private static void digest() {
-        asked("25 digest");
-        due(toldWith(""), "digest() without a question", () -> x.digest());
-        text("b>0&b<9");
-        // The values in column "a" now fall, so that their order is not that of the numbers.
-        x.put(2, 0, 9);
-        x.put(4, 0, 8);
-        x.put(6, 0, 7);
-        due(toldWith("b>0&b<9"), "digest() with a question", () -> x.digest());
-        text("a>-1");
-        x.index(0, 0);
-        x.move(1);
-        due(toldWith("a>-1"), "digest() with moved rows", () -> x.digest());
-        text("a=7&b=6");
-        due(toldWith("a=7&b=6"), "digest() with an index that would help", () -> x.digest());
-        text("b=");
-        due(toldWith("b="), "digest() with half a question", () -> x.digest());
-        text("a=7&b=6&a=7&b=6&a=7&b=6&a=7&b=6&a=7&b=61");
-        due(toldWith("a=7&b=6&a=7&b=6&a=7&b=6&a=7&b=6&a=7&b=61"), "digest() with ten terms", () -> x.digest());
-        digestOfShares();
-        due(x.digest(), "digest() changes nothing", () -> x.digest());
-    }
-
-    /** Every share of values in tables of 1 to 5 rows, so that the bits of many doubles are told. */
-    private static void digestOfShares() {
-        for (int rows = 1; rows <= 5; rows++) {
-            fresh("25 digest, " + rows + " rows");
-            x.limit(0, true, 8);
-            for (int letter = 0; letter < 8; letter++) {
-                x.mean(0, letter, 0);
-            }
-            rows(0, rows);
-            due(toldWith(""), "digest() of an empty table", () -> x.digest());
-            for (int place = 0; place < 8 * rows; place++) {
-                x.put(place / 8, place % 8, 1);
-                due(toldWith(""), "digest() with values up to place " + place, () -> x.digest());
-            }
-        }
-    }
-
-    /** The digest as the document tells it, by the other calls, with this text in the buffer. */
-    private static long toldWith(String text) {
-        long hash = 3049;
-        for (int what = 0; what <= 7; what++) {
-            hash = 31 * hash + x.count(what);
-        }
-        for (int row = 0; row < x.count(1); row++) {
-            for (int what = 0; what <= 9; what++) {
-                hash = 31 * hash + x.rowOf(row, what);
-            }
-        }
-        for (int tenant = 0; tenant < 3; tenant++) {
-            for (int what = 0; what <= 8; what++) {
-                hash = 31 * hash + x.tenant(tenant, what);
-            }
-            for (int column = 0; column < 8; column++) {
-                for (int what = 0; what <= 5; what++) {
-                    hash = 31 * hash + x.column(tenant, column, what);
-                }
-            }
-            for (int place = 0; x.answer(tenant, -1, place) != -1; place++) {
-                hash = 31 * hash + x.answer(tenant, -1, place);
-            }
-            for (int place = 0; place <= 2; place++) {
-                hash = 31 * hash + x.answer(tenant, 0, place);
-            }
-            hash = 31 * hash + x.looked(tenant, false);
-            hash = 31 * hash + x.looked(tenant, true);
-            hash = 31 * hash + x.bestIndex(tenant);
-        }
-        hash = 31 * hash + Double.doubleToLongBits(x.fullness());
-        hash = 31 * hash + text.length();
-        for (int i = 0; i < text.length(); i++) {
-            hash = 31 * hash + text.charAt(i);
-        }
-        return hash;
-    }
-
-
     /** With 120 rows, the most there can be, each of the calls still answers. */
     private static void everyRow() {
         fresh("120 rows");
@@ -981,7 +906,6 @@ public final class PromisesTest {
         due(1000000 + 1980, "column(2, 1, 4)", () -> x.column(2, 1, 4));
         due(20, "column(2, 1, 5)", () -> x.column(2, 1, 5));
         due(0, "count(2)", () -> x.count(2));
-        due(toldWith("a>-1"), "digest()", () -> x.digest());
         due(0, "forget(2, 1)", () -> x.forget(2, 1));
         due(1, "pack(2)", () -> x.pack(2));
         due(10059, "the value of the last row", () -> x.rowOf(119, 1));
